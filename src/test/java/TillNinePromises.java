@@ -71,6 +71,7 @@ public final class TillNinePromises {
         write();
         count();
         digest();
+        fiveShopsInEachCall();
         System.out.println(tests + " answers looked at, " + wrong + " not as due");
         if (wrong != 0) {
             System.exit(1);
@@ -314,6 +315,9 @@ public final class TillNinePromises {
     private static void earnsByLightHabitAndFine() {
         TillNine x = street("s1,0;s2,1;b2,10,-,16,0,3");
         x.set(0, 8);
+        TillNine dark = street("s1,0;b2,10,-,16,16,3");
+        dark.set(0, 8);
+        fraction("no light draws none", dark.earns(0, 0), dark.earns(0, 1), 30, 1);
         x.hours(0, 2);
         fraction("one light draws none", x.earns(0, 0), x.earns(0, 1), 30, 1);
         x.hours(1, 3);
@@ -396,6 +400,13 @@ public final class TillNinePromises {
         y.set(4, 8);
         due("a fine half seen", y.answer(0), 3);
         due("free, without buyers", street("s1,0").answer(0), 0);
+        // 8 would come ahead of six, 16 if it is open; by habit 12 and 24
+        TillNine z = street("s1,10;b1,16,0,0,8,1");
+        due("8 more for 10", z.answer(0), 0);
+        z.set(5, 4);
+        due("12 more for 10", z.answer(0), 1);
+        z.set(5, 2);
+        due("10 more for 10", z.answer(0), 0);
     }
 
     private static void rest() {
@@ -672,6 +683,9 @@ public final class TillNinePromises {
             due("after a ring, " + which, x.weeks(1, which), second[which]);
         }
         due("nothing changes", x.count(5), 5);
+        x.hours(0, 3);
+        x.hours(1, 0);
+        due("after a ring A is as it was", x.weeks(1, 0), 3);
         due("weeks(51, 0)", x.weeks(51, 0), -2);
         due("weeks(-1, 0)", x.weeks(-1, 0), -2);
         due("weeks(0, 8)", x.weeks(0, 8), -2);
@@ -873,8 +887,49 @@ public final class TillNinePromises {
             729, 128, 1, -3, 0, 0, -77, 128, 1, -3, 0, 1,
             163, 32, 225, 32, -3, 0, 8, 0, 0,
             1, 0, 0, 0, 3, 5, 0, 0, 0));
+        TillNine five = fiveShops();
+        five.turn(0, 16);
+        five.turn(1, 20);
+        // shop 4 earns 99 less 3 at nine; shop 2 half of 20 ahead of six, or 20 less 1; others are free and idle
+        due("five shops", five.digest(), fold(5, 2, 52, 0, 36, 0, 3, 31, -1,
+            0, 1, 0, 0, 0, 0, 0, 1, 0, 0, 0, 0, 20, 1, 1, 1, 1, 1, 0, 1, 0, 0, 0, 0, 0, 1, 3, 3, 3, 3,
+            20, 1, 10, 1, 1, 64, 0, 0, 2, 0, 0, 1, 0, 3, 5, 5, 5, 0));
         TillNine z = street("s1");
         due("a fault", z.digest(), fold(0, 0, 2, 0, 0, 0, 3, 0, 2, 0, 1, 0, 1, 0, 1, 0, -1, -1, 0, 0, 0, 0, 0, 0, 0, 0, -1));
+    }
+
+    private static TillNine fiveShops() {
+        return street("s1,0;s1,0;s3,1;s1,0;s2,1;b3,11,4,0,0,9;b1,20,2,0,8,2");
+    }
+
+    private static void fiveShopsInEachCall() {
+        promise = 0;
+        TillNine x = fiveShops();
+        int[] answers = {0, 0, 1, 0, 3};
+        x.sheet(0, 0, 5);
+        due("write", x.write(0), 5);
+        for (int shop = 0; shop < 5; shop++) {
+            due("answer", x.answer(shop), answers[shop]);
+            due("written", x.get(0, 0, shop), answers[shop]);
+            due("rest", x.rest(shop), answers[shop]);
+            due("still, the first", x.still(0, shop), answers[shop]);
+            due("still, the last", x.still(63, shop), new int[] {3, 3, 1, 3, 3}[shop]);
+            due("best", x.best(0, shop), answers[shop]);
+            due("edge", x.edge(shop), new int[] {0, 0, 20, 0, 33}[shop]);
+            due("always", x.always(shop, 0), new int[] {0, 0, -2, 0, 0}[shop]);
+            due("week", x.week(shop, 0), new int[] {0, 0, 120, 0, 0}[shop]);
+            due("weeks", x.weeks(50, shop), answers[shop]);
+        }
+        due("loss", x.loss(0), 115);
+        due("back", x.back(), 0);
+        due("read", x.read(0), 5);
+        due("open(3)", x.open(3), 16);
+        due("together", x.all(0, 0), 135);
+        x.set(1, 0);
+        due("least fine", x.leastFine(), 96);
+        due("best cap", x.bestCap(2), 3);
+        due("best cap, how much", x.bestCap(0), 135);
+        due("keeps", x.keeps(1), 2);
     }
 
     private static long fold(long... told) {
