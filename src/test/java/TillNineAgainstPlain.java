@@ -18,6 +18,9 @@ public final class TillNineAgainstPlain {
         for (int run = 0; run < runs && wrong < 20; run++) {
             play(run, new Random(seed * 1000003L + run));
         }
+        for (int i = 0; i < LONG_WAYS.length; i++) {
+            goLong(-1 - i, LONG_WAYS[i]);
+        }
         if (args.length > 2) {
             SEEN_KINDS.forEach((k, n) -> System.out.println(k + ": " + n));
         }
@@ -49,6 +52,46 @@ public final class TillNineAgainstPlain {
             } else {
                 one(run, r, x, p, log);
                 calls++;
+            }
+        }
+        check(run, log, "digest()", x.digest(), p.digest());
+    }
+
+    /* Streets with many rounds or weeks before they rest, which chance does not find: text, settings, hours. */
+    private static final String[][] LONG_WAYS = {
+        {"s3,72;s1,87;s3,63;s3,71;s2,56;b3,89,4,11,14,2;b2,29,1,12,13,9;b2,14,-,10,2,15;b3,44,-,0,5,38;b1,12,-,14,16,16",
+            "0 1 0 865 3 0 3 2", "0 0 1 3 2"},
+        {"s1,4;s3,70;s2,86;s3,96;s3,88;b1,73,-,0,15,68;b1,34,1,0,16,49;b1,70,-,2,1,4;b2,99,2,10,8,2;b3,39,2,13,15,2;b2,71,-,0,12,77",
+            "4 0 0 428 16 1 7 8", "1 1 0 1 0"},
+        {"s1,16;s2,59;s1,89;s3,75;s1,0;b1,60,-,0,12,77;b3,1,0,1,8,54;b3,37,2,0,9,4;b2,12,-,9,1,6", "6 0 0 973 6 3 2 8", "2 2 3 3 0"},
+        {"s3,99;s1,99;s2,14;s1,5;s1,49;b2,29,4,9,9,2;b1,99,-,6,9,17;b3,1,4,5,12,65;b1,38,4,16,0,11", "0 0 0 968 7 1 8 8", "0 0 0 0 0"},
+        {"s1,0;s2,54;s1,79;s2,78;s3,0;b3,21,3,12,10,9;b3,89,-,12,11,3;b3,21,2,1,7,19;b3,15,1,10,1,10;b2,59,1,3,0,1;b1,12,3,5,3,3",
+            "9 2 0 525 15 0 6 1", "0 0 1 3 3"}};
+
+    private static void goLong(int run, String[] way) {
+        TillNine x = new TillNine();
+        Plain p = new Plain();
+        List<String> log = new ArrayList<>();
+        for (char c : way[0].toCharArray()) {
+            check(run, log, "type(" + (int) c + ")", x.type(c), p.type(c));
+        }
+        String[] settings = way[1].split(" ");
+        for (int what = 0; what < 8; what++) {
+            int v = Integer.parseInt(settings[what]);
+            check(run, log, "set(" + what + ", " + v + ")", x.set(what, v), p.set(what, v));
+        }
+        String[] hours = way[2].split(" ");
+        for (int shop = 0; shop < 5; shop++) {
+            int v = Integer.parseInt(hours[shop]);
+            check(run, log, "hours(" + shop + ", " + v + ")", x.hours(shop, v), p.hours(shop, v));
+        }
+        for (int shop = -1; shop < 5; shop++) {
+            check(run, log, "rest(" + shop + ")", x.rest(shop), p.rest(shop));
+        }
+        check(run, log, "back()", x.back(), p.back());
+        for (int t = 0; t <= 50; t += 2) {
+            for (int which = 0; which < 8; which++) {
+                check(run, log, "weeks(" + t + ", " + which + ")", x.weeks(t, which), p.weeks(t, which));
             }
         }
         check(run, log, "digest()", x.digest(), p.digest());

@@ -787,6 +787,25 @@ public final class TillNineEdges {
         }
         sentence(14, "ROUNDS: how many there were in which some did");
         due("without shops", new TillNine().rest(NONE), 0);
+        // the most rounds that a search of many million streets has found; TillNineAgainstPlain plays it too
+        TillNine far = settled("s3,72;s1,87;s3,63;s3,71;s2,56;b3,89,4,11,14,2;b2,29,1,12,13,9;b2,14,-,10,2,15;b3,44,-,0,5,38;b1,12,-,14,16,16",
+            0, 1, 0, 865, 3, 0, 3, 2);
+        hours(far, 0, 0, 1, 3, 2);
+        due("rounds", far.rest(NONE), 15);
+        int[] end = new int[5];
+        for (int shop = 0; shop < 5; shop++) {
+            end[shop] = far.rest(shop);
+        }
+        hours(far, end);
+        due("rounds from where it rests", far.rest(NONE), 0);
+    }
+
+    private static TillNine settled(String text, int... settings) {
+        TillNine x = street(text);
+        for (int what = 0; what < settings.length; what++) {
+            x.set(what, settings[what]);
+        }
+        return x;
     }
 
     private static void still() {
@@ -827,7 +846,7 @@ public final class TillNineEdges {
         due("second, the first shop", z.still(1, 0), 1);
         due("second, the second shop", z.still(1, 1), 0);
         sentence(15, "STILL are HOURS of all SHOPS");
-        hours(z, 2, 1);
+        hours(z, 1, 0);
         due("whatever they have: how many", z.still(NONE, NONE), 2);
         due("whatever they have: first, the second shop", z.still(0, 1), 1);
         due("whatever they have: second, the first shop", z.still(1, 0), 1);
@@ -1264,6 +1283,11 @@ public final class TillNineEdges {
         eight.set(5, 8);
         due("at once by habit", eight.back(), 0);
         due("hours stay as they are", eight.weeks(0, 1), 1);
+        // the latest week that a search has found: one hour's habit after another comes to 8
+        TillNine late = settled("s1,4;s3,70;s2,86;s3,96;s3,88;b1,73,-,0,15,68;b1,34,1,0,16,49;b1,70,-,2,1,4;b2,99,2,10,8,2;b3,39,2,13,15,2;b2,71,-,0,12,77",
+            4, 0, 0, 428, 16, 1, 7, 8);
+        hours(late, 1, 1, 0, 1, 0);
+        due("after 24 weeks", late.back(), 24);
         sentence(26, "all HOURS 0 are not STILL");
         TillNine open = street("s1,9;b1,9,0,0,0,1");
         open.hours(0, 2);
