@@ -1781,6 +1781,7 @@ public final class TillNineEdges {
             told();
             sheets();
             full();
+            rings();
         }
 
         private static void streets() {
@@ -1882,6 +1883,32 @@ public final class TillNineEdges {
             sentence(32, "They change nothing (FINDINGS but count() 8)");
             refused("write(4)", x -> x.write(4), BAD);
             refused("write(3)", x -> x.write(3), NULL);
+        }
+
+        /* With SMALL 3 no cap binds, so that each run is a ring. */
+        private static TillNine ringing() {
+            TillNine x = settled(CHASE, 0, 1, 3, 9, 5, 0, 2, 4);
+            hours(x, 1, 2, 3, 1, 2);
+            x.turn(2, 19);
+            x.sheet(1, 1, 2);
+            x.lay(1, 1, 1, 6);
+            x.sheet(0, 0, -1);
+            return x;
+        }
+
+        private static void rings() {
+            Call[] calls = {x -> x.rest(0), x -> x.rest(NONE), x -> x.bestCap(0), x -> x.bestCap(1), x -> x.always(0, 0), x -> x.always(1, 1)};
+            int[] promises = {14, 14, 19, 19, 21, 21};
+            for (int i = 0; i < calls.length; i++) {
+                sentence(promises[i], "They change nothing (FINDINGS but count() 8)");
+                TillNine x = ringing();
+                due("a ring, call " + i, calls[i].on(x), promises[i] == 14 ? NOT : LONG_NOT);
+                long[] got = state(x);
+                long[] was = state(ringing());
+                for (int k = 0; k < was.length; k++) {
+                    due("a ring, call " + i + ", then of its state " + k, got[k], was[k]);
+                }
+            }
         }
 
         private static void full() {
